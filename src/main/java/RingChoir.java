@@ -33,7 +33,7 @@ public final class RingChoir {
     private static final int GREATER = 5;
     private static final int TELLING = 6;
     private static final int LAST_MADE_KIND = GREATER;
-    private static final int[] KIND_ABOVE = {-1, RULE, RULE, RULE, SUMMED, GATED, SHIFTED};
+    private static final int[] KIND_ABOVE = {-1, 0, 0, 0, 2, 3, 1};
 
     private final Choir choir = new Choir();
     private final Choir kept = new Choir();
@@ -91,7 +91,7 @@ public final class RingChoir {
             case 2: return choir.notes[singer];
             case 3: return choir.firsts[singer];
             case 4: return choir.seconds[singer];
-            case 5: return steps.nextNote(choir, singer, choir.notes);
+            case 5: return noteAhead(1, singer);
             case 6: return choir.wishes[singer];
             case 7: return choir.netted[singer];
             default: return fail(BEYOND);
@@ -235,9 +235,7 @@ public final class RingChoir {
         if (!within(n, 0, MOST_BARS) || !choir.has(singer)) {
             return fail(BEYOND);
         }
-        run.startFrom(choir.notes);
-        run.goOn(choir, steps, n);
-        return run.row[singer];
+        return noteAhead(n, singer);
     }
 
     public int worths(int n) {
@@ -551,6 +549,12 @@ public final class RingChoir {
             at = KIND_ABOVE[at];
         }
         return at == above;
+    }
+
+    private int noteAhead(int n, int singer) {
+        run.startFrom(choir.notes);
+        run.goOn(choir, steps, n);
+        return run.row[singer];
     }
 
     private void goBy(int n) {
@@ -946,22 +950,18 @@ public final class RingChoir {
             }
         }
 
-        int nextNote(Choir choir, int singer, int[] row) {
-            int l = row[choir.firsts[singer]];
-            int s = row[choir.seconds[singer]];
-            int at = l * MOST_NOTES + s;
-            int next = known[singer][at];
-            if (next < 0) {
-                long sum = choir.sumOf(choir.kinds[singer], choir.numbers[singer], l, s, singer);
-                next = choir.countedRound(sum);
-                known[singer][at] = next;
-            }
-            return next;
-        }
-
         void step(Choir choir, int[] from, int[] to) {
             for (int i = 0; i < choir.singers; i++) {
-                to[i] = nextNote(choir, i, from);
+                int[] mine = known[i];
+                int l = from[choir.firsts[i]];
+                int s = from[choir.seconds[i]];
+                int at = l * MOST_NOTES + s;
+                int next = mine[at];
+                if (next < 0) {
+                    next = choir.countedRound(choir.sumOf(choir.kinds[i], choir.numbers[i], l, s, i));
+                    mine[at] = next;
+                }
+                to[i] = next;
             }
         }
     }
@@ -1047,25 +1047,26 @@ public final class RingChoir {
             longest = 0;
             which = 0;
             for (int singer = 0; singer < choir.singers; singer++) {
-                int kind = choir.kinds[singer];
-                int m = choir.numbers[singer];
-                for (int told = 0; told <= 100 * LAST_MADE_KIND + choir.range - 1; told++) {
-                    if (matters(told / 100, told % 100, choir.range)) {
-                        choir.kinds[singer] = told / 100;
-                        choir.numbers[singer] = told % 100;
+                int ownKind = choir.kinds[singer];
+                int ownM = choir.numbers[singer];
+                for (int kind = RULE; kind <= LAST_MADE_KIND; kind++) {
+                    int most = usesNumber(kind) ? choir.range : 1;
+                    for (int m = 0; m < most; m++) {
+                        choir.kinds[singer] = kind;
+                        choir.numbers[singer] = m;
                         steps.forget(singer);
-                        keepLonger(comesRound(choir, steps), 10000 * singer + told);
+                        keepLonger(comesRound(choir, steps), 10000 * singer + 100 * kind + m);
                     }
                 }
-                choir.kinds[singer] = kind;
-                choir.numbers[singer] = m;
+                choir.kinds[singer] = ownKind;
+                choir.numbers[singer] = ownM;
                 steps.forget(singer);
             }
         }
 
-        /** Only SHIFTED and RAISED use m; of the others all are as the one with 0, which is the first. */
-        private static boolean matters(int kind, int m, int range) {
-            return m == 0 || (m < range && (kind == SHIFTED || kind == RAISED));
+        /** Of a kind that doesn't, all rules are as the one with 0, which is the first of them. */
+        private static boolean usesNumber(int kind) {
+            return kind == SHIFTED || kind == RAISED;
         }
 
         private void keepLonger(boolean round, int told) {
