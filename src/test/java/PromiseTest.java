@@ -171,6 +171,10 @@ public final class PromiseTest {
     }
 
     private static void ofSinger() {
+        RingChoir first = new RingChoir();
+        first.singer(1, 5);
+        due("4 0 + 5", first.ofSinger(0, 5), 5);
+        due("16 0 + 10", first.far(2, 0), 3);
         RingChoir x = choir(7, 199, 403);
         due("4 kind", x.ofSinger(1, 0), 4);
         due("4 m", x.ofSinger(0, 1), 99);
@@ -483,6 +487,9 @@ public final class PromiseTest {
         due("13 ! of what is not 0", value("!l", -3, 0, 0, 0), 0);
         due("13 !!", value("!!l", -3, 0, 0, 0), 1);
         due("13 | is 1", value("l|0", 8, 0, 0, 0), 1);
+        due("13 | is 1", value("0|l", 8, 0, 0, 0), 1);
+        due("13 | is 0", value("0|l", 0, 0, 0, 0), 0);
+        due("13 < of equals", value("l<s", 8, 8, 0, 0), 0);
         due("13 & is 1", value("l&2", 8, 0, 0, 0), 1);
         due("13 & is 0", value("l&0", 8, 0, 0, 0), 0);
         due("13 =", value("l=s", 8, 8, 0, 0), 1);
@@ -523,11 +530,18 @@ public final class PromiseTest {
         due("14 above the last", x.bars(500), STATE);
         due("15 above the last", x.loose(500, 0), STATE);
         due("14 up to the last", x.bars(499), 999999);
+        due("37 at the last", x.image(), 1);
         due("14 one more", x.bars(1), STATE);
         due("15 one more", x.loose(1, 0), STATE);
         due("14 beyond first", x.bars(501), BEYOND);
         due("16 ahead of the last", x.far(500, 0), 0);
         due("14 BAR", x.count(0), 999999);
+        RingChoir y = choir(7, 0);
+        for (int i = 0; i < 1999; i++) {
+            y.loose(500, 0);
+        }
+        due("15 above the last", y.loose(500, 0), STATE);
+        due("15 up to the last", y.loose(499, 0), 999999);
     }
 
     private static void loose() {
@@ -674,6 +688,9 @@ public final class PromiseTest {
         due("20 first", x.beginnings(1, 1), 2);
         due("20 now", x.beginnings(0, 1), 6);
         due("20 in 2 by singer 2", x.beginnings(2, 1), 18);
+        x.sing(1, 1, 0);
+        due("20 silence is a wish, too", x.beginnings(1, 0), 9);
+        x.sing(1, 1, 2);
         x.sing(2, 1, 1);
         due("20 two wishes", x.beginnings(1, 0), 3);
         due("20 two wishes: first", x.beginnings(1, 1), 2 + 3);
@@ -707,6 +724,8 @@ public final class PromiseTest {
 
     private static void before() {
         RingChoir x = choir(3, 0, 0, 0);
+        due("22 silence is behind silence", x.before(0), 1);
+        due("22 silence is behind silence", x.before(1), 0);
         singNotes(x, 2, 0, 1);
         due("22 one", x.before(0), 1);
         due("22 from the right", x.before(1), 0 + 3 * 1 + 9 * 2);
@@ -812,6 +831,11 @@ public final class PromiseTest {
         RingChoir none = new RingChoir();
         lay(none, 0, 8, 1, 2, 3);
         due("25 no singers", none.fewest(0), 0);
+        RingChoir one = choir(7, 102);
+        lay(one, 0, 8, 2, 4, 6, 1, 3);
+        due("25 one, as it goes", one.fewest(0), 0);
+        one.put(0, 4, 0);
+        due("25 one, otherwise", one.fewest(0), 1);
     }
 
     private static void made() {
@@ -854,6 +878,7 @@ public final class PromiseTest {
         due("27 in 200", x.heard(1, 1, 200), 2);
         due("27 all of N", x.heard(1, 7, 3), 0);
         due("27 more than N", x.heard(1, 8, 3), 1);
+        due("27 d 11", x.heard(1, 11, 3), 1);
         due("27 201", x.heard(1, 1, 201), BEYOND);
         due("27 -1", x.heard(1, 1, -1), BEYOND);
         due("27 d 0", x.heard(1, 0, 1), BEYOND);
@@ -954,6 +979,22 @@ public final class PromiseTest {
         own.rule(1, 0, 0);
         own.notes(2);
         due("30 SHIFTED by 1 is the first of 2 bars", own.longer(0), 101);
+        RingChoir later = choir(7, 101, 0);
+        later.net(0, 0, 0);
+        later.net(1, 1, 1);
+        due("30 1 by RAISED with 1", later.longer(0), 10401);
+        due("30 7 times 3", later.longer(1), 21);
+        RingChoir fed = choir(2, 0, 0, 0);
+        fed.sing(1, 0, 1);
+        due("30 all but silence, by SUMMED", fed.longer(0), 200);
+        due("30 all but silence", fed.longer(1), 7);
+        fed.rule(1, 2, 0);
+        due("30 all but silence, by its own", fed.longer(0), 0);
+        due("30 all but silence", fed.longer(1), 7);
+        RingChoir greater = choir(3, 200, 500, 300);
+        greater.sing(0, 0, 1);
+        due("30 2 by GREATER", greater.longer(0), 20500);
+        due("30 011 211 212 022 122 121", greater.longer(1), 6);
         RingChoir halves = new RingChoir();
         addOdometer(halves, 9);
         due("30 one rule ends it", halves.longer(0) >= 0 ? 1 : 0, 1);
@@ -1157,6 +1198,7 @@ public final class PromiseTest {
         due("38 net", x.ofSinger(1, 3), 1);
         due("38 net", x.ofSinger(1, 7), 1);
         due("38 ring", x.ofSinger(0, 3), 1);
+        due("38 ring", x.ofSinger(0, 4), 0);
         due("38 next", x.ofSinger(0, 5), next);
         due("38 adds", x.law(0, 4, 0, 0, 0), 5);
         due("38 worth", x.law(1, 4, 0, 0, 0), 8);
@@ -1174,6 +1216,19 @@ public final class PromiseTest {
         due("38 in place of the one ahead", x.restore(), 4);
         due("37 thrice", x.image(), 3);
         due("38 none", new RingChoir().restore(), NONE);
+        RingChoir y = choir(7, 103);
+        y.tell(3);
+        y.tell(6);
+        y.image();
+        y.rule(0, 1, 4);
+        due("38 0 + 4", y.ofSinger(0, 5), 4);
+        due("40 isn't so", y.check(0), 1);
+        y.tell(4);
+        y.tell(1);
+        due("40 is so", y.check(0), 0);
+        y.restore();
+        due("38 0 + 3 again", y.ofSinger(0, 5), 3);
+        due("38 waiting 3 6", y.check(0), 0);
     }
 
     private static void tell() {
@@ -1214,7 +1269,7 @@ public final class PromiseTest {
     private static void count() {
         RingChoir x = choir(9, 0, 0);
         x.bars(7);
-        x.sing(1, 1, 0);
+        x.sing(0, 1, 0);
         x.feed(0, 3);
         x.tell(0);
         x.voice(0, 1, 0);
