@@ -1197,6 +1197,7 @@ public final class PromiseTest {
         due("38 m", x.ofSinger(0, 1), 1);
         due("38 net", x.ofSinger(1, 3), 1);
         due("38 net", x.ofSinger(1, 7), 1);
+        due("38 net", x.ofSinger(1, 4), 1);
         due("38 ring", x.ofSinger(0, 3), 1);
         due("38 ring", x.ofSinger(0, 4), 0);
         due("38 next", x.ofSinger(0, 5), next);
@@ -1229,6 +1230,13 @@ public final class PromiseTest {
         y.restore();
         due("38 0 + 3 again", y.ofSinger(0, 5), 3);
         due("38 waiting 3 6", y.check(0), 0);
+        y.singer(1, 1);
+        y.sing(1, 0, 5);
+        y.bars(2);
+        y.restore();
+        y.bars(1);
+        y.singer(0, 0);
+        due("3 silent at first, behind an image, too", y.ofSinger(1, 2), 0);
     }
 
     private static void tell() {
