@@ -1,4 +1,4 @@
-/** Each promise of the document by its number, with answers worked out by hand. */
+/** Each promise of the document by its number, with answers worked out by hand (see longer() for three that aren't). */
 public final class PromiseTest {
     private static final int BEYOND = -1000000001;
     private static final int NONE = -1000000002;
@@ -984,6 +984,7 @@ public final class PromiseTest {
         later.net(1, 1, 1);
         due("30 1 by RAISED with 1", later.longer(0), 10401);
         due("30 7 times 3", later.longer(1), 21);
+        // These were found by a search with the program: that no other rule does better is the model's word too.
         RingChoir fed = choir(2, 0, 0, 0);
         fed.sing(1, 0, 1);
         due("30 all but silence, by SUMMED", fed.longer(0), 200);
