@@ -17,10 +17,12 @@ public final class AheadEdgesTest {
         roundBeyond();
         roundTaken();
         roundOfSixHundred();
+        roundFromEachState();
         roundWithATail();
         roundNone();
         roundOfOneAlone();
         noMoreThanThreeThousand();
+        fewerThanAhead();
         tooManyStates();
         allOfNoSingers();
         beginningsBeyond();
@@ -153,6 +155,16 @@ public final class AheadEdgesTest {
         due("19 600 bars on: LENGTH", x.round(1), 600);
     }
 
+    /** Terms 3: "within 600 BARS": from each of the 600 STATES of that round it is the same. */
+    private static void roundFromEachState() {
+        for (int phase = 0; phase < 600; phase++) {
+            RingChoir x = Edges.sixHundred();
+            Edges.sung(x, phase % 10, phase / 10 % 10, phase % 100 == 0 ? 1 : 0, phase / 100);
+            due("19 from " + phase + ": TAIL", x.round(0), 0);
+            due("19 from " + phase + ": LENGTH", x.round(1), 600);
+        }
+    }
+
     /** Terms 3: "within 600 BARS": TAIL and LENGTH together are 599, 600 and 601. */
     private static void roundWithATail() {
         int[] phases = {122, 121};
@@ -243,6 +255,26 @@ public final class AheadEdgesTest {
 
     private static int gcd(int a, int b) {
         return a == 0 ? b : gcd(b % a, a);
+    }
+
+    /** Terms 3: as many STATES as there are now, when there were more when it was asked ahead. */
+    private static void fewerThanAhead() {
+        for (int n = 2; n <= 6; n++) {
+            RingChoir x = plain(7, 4);
+            due("23 2401", x.never(), 0);
+            x.notes(n);
+            for (int i = 0; i < 4; i++) {
+                x.rule(i, 3, 0);
+                x.net(i, 0, 0);
+            }
+            int states = n * n * n * n;
+            due("20 to silence, of " + n, x.beginnings(1, 0), states);
+            due("21 to silence, of " + n, x.best(1), 0);
+            due("22 to silence, of " + n, x.before(0), states);
+            due("23 to silence, of " + n, x.never(), states - 1);
+            due("24 to silence, of " + n, x.rings(0), 1);
+            due("24 to silence, of " + n + ": LONGEST", x.rings(1), 1);
+        }
     }
 
     /** Promises 20 to 24: "STATE". */
@@ -417,6 +449,9 @@ public final class AheadEdgesTest {
         two.net(1, 1, 0);
         due("24 one of all", two.rings(0), 1);
         due("24 one of all: LONGEST", two.rings(1), 144);
+        two.rule(0, 1, 0);
+        due("24 0 is still: 11 times 12 of their own, and one of 12", two.rings(0), 133);
+        due("24 0 is still: LONGEST", two.rings(1), 12);
         RingChoir last = Edges.choir(12, 101);
         due("24 all 12", last.rings(1), 12);
         RingChoir bits = Edges.choir(2, 200, 0, 0, 0, 0, 0, 0);

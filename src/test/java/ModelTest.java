@@ -64,20 +64,28 @@ public final class ModelTest {
             return least + random.nextInt(most - least + 1);
         }
 
-        /** Mostly within, at times at or beyond an edge. */
+        /** Mostly within, at times at or beyond an edge, or far beyond it. */
         private int about(int least, int most) {
-            int how = random.nextInt(24);
+            int how = random.nextInt(48);
             switch (how) {
-                case 0: return least - 1;
-                case 1: return most + 1;
-                case 2: return least;
-                case 3: return most;
+                case 0: case 1: return least - 1;
+                case 2: case 3: return most + 1;
+                case 4: case 5: return least;
+                case 6: case 7: return most;
+                case 8: return Integer.MIN_VALUE;
+                case 9: return Integer.MAX_VALUE;
+                case 10: return random.nextInt();
                 default: return least > most ? least : any(least, most);
             }
         }
 
         private int wild() {
-            return random.nextInt(3) == 0 ? random.nextInt() : any(-20, 20);
+            switch (random.nextInt(9)) {
+                case 0: return Integer.MIN_VALUE;
+                case 1: return Integer.MAX_VALUE;
+                case 2: case 3: return random.nextInt();
+                default: return any(-20, 20);
+            }
         }
 
         private int singer() {
@@ -115,7 +123,7 @@ public final class ModelTest {
                 case 8: { int s = singer(), f = singer(), g = singer(); due("net " + s + " " + f + " " + g, x.net(s, f, g), y.net(s, f, g)); break; }
                 case 9: { int s = singer(); due("ring " + s, x.ring(s), y.ring(s)); break; }
                 case 10: case 11: case 12: {
-                    int s = singer(), w = about(0, 1), v = about(-w, y.n - 1);
+                    int s = singer(), w = about(0, 1), v = about(w == 1 ? -1 : 0, y.n - 1);
                     due("sing " + s + " " + w + " " + v, x.sing(s, w, v), y.sing(s, w, v));
                     break;
                 }
@@ -124,7 +132,7 @@ public final class ModelTest {
                 case 15: case 16: drawText(); break;
                 case 17: { int u = about(0, 1), a = wild(), b = wild(), c = wild(), d = wild(); due("law " + u + " " + a + " " + b + " " + c + " " + d, x.law(u, a, b, c, d), y.law(u, a, b, c, d)); break; }
                 case 18: { int n = random.nextInt(3) == 0 ? about(1, 500) : any(1, 5); due("bars " + n, x.bars(n), y.bars(n)); break; }
-                case 19: { int n = any(0, 9), l = about(0, 100); due("loose " + n + " " + l, x.loose(n, l), y.loose(n, l)); break; }
+                case 19: { int n = random.nextInt(9) == 0 ? about(1, 500) : any(1, 9), l = about(0, 100); due("loose " + n + " " + l, x.loose(n, l), y.loose(n, l)); break; }
                 case 20: { int n = about(0, 500), s = singer(); due("far " + n + " " + s, x.far(n, s), y.far(n, s)); break; }
                 case 21: { int n = about(0, 500); due("worths " + n, x.worths(n), y.worths(n)); break; }
                 case 22: due("state", x.state(), y.state()); break;
@@ -149,16 +157,16 @@ public final class ModelTest {
                     }
                     break;
                 }
-                case 37: { int s = sheet(), b = new int[] {8, 16, 32, 8, 16, 32, 0, 7}[any(0, 7)], n = random.nextBoolean() ? any(-1, 20) : about(0, 40); due("sheet " + s + " " + b + " " + n, x.sheet(s, b, n), y.sheet(s, b, n)); break; }
-                case 38: case 39: { int s = sheet(), i = any(-1, 24), v = note(); due("put " + s + " " + i + " " + v, x.put(s, i, v), y.put(s, i, v)); break; }
-                case 40: { int s = sheet(), i = any(-1, 12), o = sheet(), j = any(-1, 12), n = any(-1, 8); due("move " + s + " " + i + " " + o + " " + j + " " + n, x.move(s, i, o, j, n), y.move(s, i, o, j, n)); break; }
+                case 37: { int s = sheet(), b = new int[] {8, 16, 32, 8, 16, 32, 0, 7}[any(0, 7)], n = random.nextBoolean() ? any(0, 20) : about(0, 40); due("sheet " + s + " " + b + " " + n, x.sheet(s, b, n), y.sheet(s, b, n)); break; }
+                case 38: case 39: { int s = sheet(), i = about(0, 24), v = note(); due("put " + s + " " + i + " " + v, x.put(s, i, v), y.put(s, i, v)); break; }
+                case 40: { int s = sheet(), i = about(0, 12), o = sheet(), j = about(0, 12), n = about(0, 8); due("move " + s + " " + i + " " + o + " " + j + " " + n, x.move(s, i, o, j, n), y.move(s, i, o, j, n)); break; }
                 case 41: images(); break;
                 case 42: { int v = note(); due("tell " + v, x.tell(v), y.tell(v)); break; }
                 case 43: { int s = singer(); tellTrue(s); due("check " + s, x.check(s), y.check(s)); break; }
                 case 44: { int w = about(0, 7); due("count " + w, x.count(w), y.count(w)); break; }
                 default: tellBars(); break;
             }
-            int k = any(0, 6);
+            int k = about(1, 5);
             due("told " + k, x.told(k), y.told(k));
         }
 

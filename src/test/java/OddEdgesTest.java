@@ -35,6 +35,7 @@ public final class OddEdgesTest {
         longerNone();
         longerWithin();
         longerTaken();
+        longerKinds();
         askedAlone();
         Edges.end("odd ones, coughs, tunes");
     }
@@ -410,10 +411,28 @@ public final class OddEdgesTest {
         second.net(1, 1, 1);
         due("30 the second singer", second.longer(0), 10401);
         due("30 7 times 3", second.longer(1), 21);
-        RingChoir one = Edges.choir(7, 300, 0);
+        RingChoir one = Edges.choir(7, 300, 300);
         one.net(0, 1, 1);
         one.net(1, 0, 0);
-        due("30 LENGTH is 1 at least", one.longer(1) >= 1 ? 1 : 0, 1);
+        due("30 the smallest LENGTH: whoever is told otherwise, the other is silent", one.longer(1), 1);
+        due("30 the smallest LENGTH: the first of all", one.longer(0), 0);
+    }
+
+    /**
+     * Terms 3: "KINDS 0 to 5": the first, SUMMED with m 0, and the last. Three singers of two notes make no round
+     * of more than 7 bars by sums of what they hear, as silence leads to itself (or, one more, another STATE does).
+     * GREATER was found with the program, and is as ModelTest's model has it.
+     */
+    private static void longerKinds() {
+        RingChoir x = Edges.sung(Edges.choir(2, 0, 0, 0), 0, 1, 0);
+        due("30 SUMMED", x.longer(0), 200);
+        due("30 all but silence", x.longer(1), 7);
+        x.rule(1, 2, 0);
+        due("30 as it is: the first of all", x.longer(0), 0);
+        due("30 all but silence", x.longer(1), 7);
+        RingChoir last = Edges.sung(Edges.choir(3, 200, 500, 300), 1, 0, 0);
+        due("30 2 by GREATER", last.longer(0), 20500);
+        due("30 2 by GREATER", last.longer(1), 6);
     }
 
     /** Terms: what is asked alone changes nothing, rules tried by LONGER are as they were. */

@@ -264,8 +264,11 @@ public final class SingerEdgesTest {
         due("2 full, as it is", Edges.CROWD.make().notes(12), 12);
         due("2 some, the smallest above NOTES", Edges.SOME.make().notes(5), 5);
         RingChoir y = Edges.sung(Edges.choir(12, 101), 1);
-        y.notes(2);
-        due("2 counted round by the new N", y.ofSinger(0, 5), 0);
+        due("2 counted round by 12", y.ofSinger(0, 5), 2);
+        due("2 the smallest", y.notes(2), 12);
+        due("2 counted round by 2", y.ofSinger(0, 5), 0);
+        due("2 the largest", y.notes(12), 2);
+        due("2 counted round by 12 again", y.ofSinger(0, 5), 2);
     }
 
     /** Promise 2: "BEYOND" (N 2 to 12), ahead of "STATE". */
@@ -317,6 +320,12 @@ public final class SingerEdgesTest {
             due("3 its KIND", x.ofSinger(1, 0), kind);
             due("3 its m", x.ofSinger(0, 1), 0);
             due("3 its m", x.ofSinger(1, 1), 99);
+        }
+        int[] next = {0, 99 % 7, 0, 0, 99 % 7, 0, 99 % 7};
+        for (int kind = 0; kind <= 6; kind++) {
+            RingChoir x = new RingChoir();
+            x.singer(kind, 99);
+            due("3 sings by its RULE, of KIND " + kind, x.ofSinger(0, 5), next[kind]);
         }
     }
 

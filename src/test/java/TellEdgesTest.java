@@ -17,6 +17,7 @@ public final class TellEdgesTest {
         seed();
         draws();
         voiceBeyond();
+        voiceOfEachKind();
         voiceGoesRound();
         traceNone();
         traceOfTheLatest();
@@ -92,6 +93,33 @@ public final class TellEdgesTest {
         for (Edges.Scene s : Edges.SCENES) {
             Edges.outside("32 singer", BEYOND, 0, s.singers - 1, (x, v) -> x.voice(v, 0, 5), s);
             Edges.refused("32 both", s, BEYOND, x -> x.voice(s.singers, 4, 5));
+        }
+    }
+
+    /** Terms 3: "the BODY of its KIND, or of the next KIND above that has one": each KIND, each VOICE, THE TRACE. */
+    private static void voiceOfEachKind() {
+        int[][] answers = {{5, 10, 2, 8}, {6, 14, 2, 12}, {21, 42, 2, 40}, {8, 16, -2, -18}, {30, 60, 2, 62},
+            {10, 20, -2, -29}, {11, 30, 2, 2}};
+        int[][][] traces = {
+            {{10}, {11, 10}, {12}, {13, 11, 10, 12}},
+            {{10}, {20, 11, 10, 12}, {12}, {13, 20, 11, 10, 12, 12}},
+            {{30, 10}, {11, 30, 10}, {12}, {13, 11, 30, 10, 12}},
+            {{10}, {11, 10}, {40, 12}, {13, 11, 10, 40, 12}},
+            {{50, 30, 10}, {11, 50, 30, 10}, {12}, {13, 11, 50, 30, 10, 12}},
+            {{10}, {11, 10}, {40, 12}, {60, 13, 11, 10, 40, 12, 10}},
+            {{10}, {70, 20, 11, 10, 12}, {12}, {71, 70, 20, 11, 10, 12, 13, 70, 20, 11, 10, 12, 12}}};
+        RingChoir x = Edges.choir(7, 3, 103, 203, 303, 403, 503, 603);
+        for (int kind = 0; kind < 7; kind++) {
+            for (int act = 0; act < 4; act++) {
+                String what = "KIND " + kind + ", act " + act;
+                int[] trace = traces[kind][act];
+                due("32 " + what, x.voice(kind, act, 5), answers[kind][act]);
+                due("41 " + what, x.count(6), trace.length);
+                for (int i = 0; i < trace.length; i++) {
+                    due("33 " + what + ", " + i, x.trace(i), trace[i]);
+                }
+                due("33 " + what + ", behind the last", x.trace(trace.length), NONE);
+            }
         }
     }
 
@@ -407,6 +435,10 @@ public final class TellEdgesTest {
             x.restore();
         }
         due("37 full", Edges.CROWD.make().image(), 2);
+        x.bars(1);
+        x.image();
+        x.bars(1);
+        due("37 in place of one ahead", x.restore(), 1);
     }
 
     /** Promise 37: "All (but SHEETS, THE TRACE, what told() tells, and how often this was done)". */
@@ -417,6 +449,9 @@ public final class TellEdgesTest {
         x.text(0);
         Edges.read(x, 1, "7");
         x.check(0);
+        for (int i = 0; i < 20; i++) {
+            x.tell(77);
+        }
         x.notes(9);
         x.rule(0, 0, 0);
         x.net(0, 0, 0);
@@ -492,6 +527,8 @@ public final class TellEdgesTest {
             due("38 no SINGERS", x.ofSinger(0, 0), BEYOND);
             due("3 silent at first", x.singer(0, 0) == 0 ? x.ofSinger(0, 2) : -1, 0);
             due("3 no WISH at first", x.ofSinger(0, 6), -1);
+            x.bars(1);
+            due("3 the second is silent at first, too", x.singer(0, 0) == 1 ? x.ofSinger(1, 2) : -1, 0);
             x.restore();
         }
     }
@@ -619,7 +656,7 @@ public final class TellEdgesTest {
             Edges.asked("42 one", Edges.SOME, some[k - 1], x -> x.told(of));
         }
         RingChoir x = Edges.CROWD.make();
-        for (int i = 1; i <= 40; i++) {
+        for (int i = 1; i <= 30; i++) {
             x.bars(0);
             x.trace(-1);
             x.never();

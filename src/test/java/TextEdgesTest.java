@@ -484,6 +484,11 @@ public final class TextEdgesTest {
         due("16 AHEAD beyond BAR 999999, too", end.far(500, 0), 3);
         due("17 AHEAD beyond BAR 999999, too", end.worths(500), 3);
         due("19 ROUND beyond BAR 999999, too", end.round(1), 1);
+        due("27 HEARD beyond BAR 999999, too", end.heard(0, 4, 200), 1);
+        due("28 GONE beyond BAR 999999, too", end.gone(0, 4), Edges.NONE);
+        due("29 a TUNE beyond BAR 999999, too", Edges.laid(end, 0, 8, 3, 3, 3).tune(0), 0);
+        due("39 told", end.tell(3), 1);
+        due("40 AHEAD beyond BAR 999999, too", end.check(0), 0);
         due("37 the last BAR is kept", end.image(), 1);
         due("38 the last BAR comes back", end.restore(), LAST_BAR);
     }
