@@ -17,6 +17,7 @@ import java.util.regex.Pattern;
 /** What of ../shared/LANGUAGE.md can be seen from outside: the face, the words, the sizes, the room. */
 public final class LanguageTest {
     private static final Path SOURCE = Path.of("src/main/java/RingChoir.java");
+    private static final Path DOC = Path.of("../shared/DOC.md");
     private static final String FACE = "notes(int) singer(int,int) ofSinger(int,int) rule(int,int,int) as(int,int) "
         + "net(int,int,int) ring(int) sing(int,int,int) begin(int) feed(long,int) text(int) "
         + "law(int,int,int,int,int) bars(int) loose(int,int) far(int,int) worths(int) state() round(int) "
@@ -30,6 +31,7 @@ public final class LanguageTest {
 
     public static void main(String[] args) throws Exception {
         face();
+        headings();
         inside();
         words();
         methodLengths();
@@ -75,6 +77,21 @@ public final class LanguageTest {
         for (Field f : RingChoir.class.getDeclaredFields()) {
             must(Modifier.isPrivate(f.getModifiers()), "1: not private: " + f);
         }
+    }
+
+    /** The calls stand in the order of the document's face, with its headings ahead of them. */
+    private static void headings() throws IOException {
+        StringBuilder due = new StringBuilder();
+        Matcher told = Pattern.compile("Ahead of the calls (.*) the interface says: (---- .*)\\.").matcher(Files.readString(DOC));
+        while (told.find()) {
+            due.append(told.group(2)).append(' ').append(told.group(1).replaceAll("[`,]", "")).append(' ');
+        }
+        StringBuilder there = new StringBuilder();
+        Matcher found = Pattern.compile("(?m)^    (?:// (---- .*)|public (?:int|long) (\\w+)\\(.*)$").matcher(Files.readString(SOURCE));
+        while (found.find()) {
+            there.append(found.group(1) == null ? found.group(2) : found.group(1)).append(' ');
+        }
+        must(due.length() > 0 && there.toString().startsWith(due.toString()), "the headings: " + there);
     }
 
     private static void inside() {
